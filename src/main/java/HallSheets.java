@@ -32,7 +32,7 @@ public final class HallSheets {
     private final Country then = new Country();
     /** LANDS in mind are made here, so that none of what stands is touched. */
     private final Country mind = new Country();
-    private boolean imageTaken = false;
+    private boolean imageTaken;
     private final Shelf[] shelves = new Shelf[SHELVES];
     private final Watchers watchers = new Watchers();
     private final Recount recount = new Recount();
@@ -588,8 +588,8 @@ public final class HallSheets {
         private static final int PLAIN_HEAVINESS = 10;
         private static final int TRUE_HEAVINESS = PLAIN_HEAVINESS + 1;
 
-        int kind = PLAIN;
-        int number = 0;
+        int kind;
+        int number;
 
         void copyFrom(Sheet other) {
             kind = other.kind;
@@ -658,18 +658,20 @@ public final class HallSheets {
 
     /** A HALL: what it is, what TRULY was, its SHEET, and what is WRITTEN of it. */
     private static final class Hall {
-        int list = 0;
-        int town = 0;
-        int kin = 0;
-        int district = 0;
-        int earlier = 0;
-        int trueCame = 0;
-        int trueOurs = 0;
+        private static final int MOST_FIGURES = 4;
+
         final Sheet sheet = new Sheet();
-        boolean watched = false;
-        boolean missing = true;
-        int came = 0;
-        int ours = 0;
+        int list;
+        int town;
+        int kin;
+        int district;
+        int earlier;
+        int trueCame;
+        int trueOurs;
+        boolean watched;
+        boolean missing;
+        int came;
+        int ours;
 
         /** A place of HALLS that a RESTORED IMAGE left free may hold an older one still. */
         void begin(int itsList, int told, int itsEarlier) {
@@ -684,8 +686,6 @@ public final class HallSheets {
             sheet.number = 0;
             watched = false;
             missing = true;
-            came = 0;
-            ours = 0;
         }
 
         void copyFrom(Hall other) {
@@ -721,21 +721,16 @@ public final class HallSheets {
             return shareOf(came, ours);
         }
 
-        boolean hasLast() {
-            return !missing && ours >= 100;
-        }
-
-        boolean hasFirst() {
-            return !missing && ours >= 1;
-        }
-
         int lastFigure() {
-            return ours % 10;
+            return missing || ours < 100 ? NONE : ours % 10;
         }
 
         int firstFigure() {
+            if (missing || ours < 1) {
+                return NONE;
+            }
             int first = ours;
-            for (int step = 0; step < 10 && first >= 10; step++) {
+            for (int step = 0; step < MOST_FIGURES && first >= 10; step++) {
                 first = first / 10;
             }
             return first;
@@ -769,15 +764,17 @@ public final class HallSheets {
         private static final int MOST_ODDS_HALLS = 18;
 
         final Hall[] halls = new Hall[MOST_HALLS];
-        int hallCount = 0;
+        int hallCount;
         final int[] laws = {0, 50, 50, 10, 50, 50, 50, 50, 50, 50};
         final boolean[] told = new boolean[DISTRICTS];
         final int[] toldCame = new int[DISTRICTS];
         final int[] toldOurs = new int[DISTRICTS];
         final int[][] markTexts = new int[MOST_MARKS][MOST_ELEMENTS];
         final int[] markSizes = new int[MOST_MARKS];
-        int markCount = 0;
+        int markCount;
         private final MarkTruth markTruth = new MarkTruth();
+        private final int[] figureCounts = new int[10];
+        private final int[] inOrder = new int[MOST_HALLS];
 
         Country() {
             for (int h = 0; h < MOST_HALLS; h++) {
@@ -787,7 +784,7 @@ public final class HallSheets {
 
         void copyFrom(Country other) {
             hallCount = other.hallCount;
-            for (int h = 0; h < MOST_HALLS; h++) {
+            for (int h = 0; h < hallCount; h++) {
                 halls[h].copyFrom(other.halls[h]);
             }
             System.arraycopy(other.laws, 0, laws, 0, LAWS);
@@ -797,7 +794,7 @@ public final class HallSheets {
                 toldOurs[district] = other.toldOurs[district];
             }
             markCount = other.markCount;
-            for (int m = 0; m < MOST_MARKS; m++) {
+            for (int m = 0; m < markCount; m++) {
                 markSizes[m] = other.markSizes[m];
                 System.arraycopy(other.markTexts[m], 0, markTexts[m], 0, MOST_ELEMENTS);
             }
@@ -875,28 +872,37 @@ public final class HallSheets {
         }
 
         int figureCount(int figure, boolean first) {
-            int alike = 0;
+            countFigures(first);
+            return figureCounts[figure];
+        }
+
+        /** Counts LAST or FIRST figures anew, and answers how many there are of all. */
+        private int countFigures(boolean first) {
+            Arrays.fill(figureCounts, 0);
+            int all = 0;
             for (int h = 0; h < hallCount; h++) {
-                Hall it = halls[h];
-                if (first && it.hasFirst() && it.firstFigure() == figure) {
-                    alike++;
-                }
-                if (!first && it.hasLast() && it.lastFigure() == figure) {
-                    alike++;
+                int figure = first ? halls[h].firstFigure() : halls[h].lastFigure();
+                if (within(figure, 0, 9)) {
+                    figureCounts[figure]++;
+                    all++;
                 }
             }
-            return alike;
+            return all;
         }
 
         long rowsWithFigure(int figure) {
             int n = 0;
             int k = 0;
             for (int h = 0; h < hallCount && n < MOST_ODDS_HALLS; h++) {
-                if (halls[h].hasLast()) {
-                    n++;
-                    k += halls[h].lastFigure() == figure ? 1 : 0;
-                }
+                int last = halls[h].lastFigure();
+                n += last != NONE ? 1 : 0;
+                k += last == figure ? 1 : 0;
             }
+            return rowsWith(n, k);
+        }
+
+        /** Of all rows of n figures, in how many a figure comes k times or more. */
+        private static long rowsWith(int n, int k) {
             long rows = 0;
             long otherwise = 1;
             long placings = 1;
@@ -940,24 +946,23 @@ public final class HallSheets {
         }
 
         int middleShare(int town) {
-            int middle = likeHalls(town, 100) / 2;
-            for (int share = 0; share <= 100; share++) {
-                if (likeHalls(town, share) > middle) {
-                    return share;
-                }
-            }
-            return NONE;
-        }
-
-        private int likeHalls(int town, int mostShare) {
-            int like = 0;
+            int size = 0;
             for (int h = 0; h < hallCount; h++) {
                 Hall it = halls[h];
-                if (!it.missing && it.town == town && it.share() <= mostShare) {
-                    like++;
+                if (!it.missing && it.town == town) {
+                    putInOrder(it.share(), size);
+                    size++;
                 }
             }
-            return like;
+            return size == 0 ? NONE : inOrder[size / 2];
+        }
+
+        private void putInOrder(int share, int size) {
+            int place = size;
+            for (; place > 0 && inOrder[place - 1] > share; place--) {
+                inOrder[place] = inOrder[place - 1];
+            }
+            inOrder[place] = share;
         }
 
         int shareFromMiddle(Hall it) {
@@ -1062,22 +1067,20 @@ public final class HallSheets {
 
         int measured(int what) {
             switch (what) {
-                case 0: return unevenness(0, false);
-                case 1: return unevenness(1, true);
+                case 0: return unevenness(false);
+                case 1: return unevenness(true);
                 case 2: return roundCount(-1);
                 case 3: return highCount();
                 default: return allMustBe();
             }
         }
 
-        private int unevenness(int leastFigure, boolean first) {
-            int all = 0;
-            for (int figure = leastFigure; figure <= 9; figure++) {
-                all += figureCount(figure, first);
-            }
+        private int unevenness(boolean first) {
+            int all = countFigures(first);
+            int least = first ? 1 : 0;
             int uneven = 0;
-            for (int figure = leastFigure; figure <= 9; figure++) {
-                int over = (10 - leastFigure) * figureCount(figure, first) - all;
+            for (int figure = least; figure <= 9; figure++) {
+                int over = (10 - least) * figureCounts[figure] - all;
                 uneven += over * over;
             }
             return uneven;
@@ -1121,10 +1124,10 @@ public final class HallSheets {
         private static final int FEW = 14;
 
         private final int[] shares = new int[MOST_HALLS];
-        private int all = 0;
-        private int allShares = 0;
-        private int watched = 0;
-        private int watchedShares = 0;
+        private int all;
+        private int allShares;
+        private int watched;
+        private int watchedShares;
 
         void look(Country at) {
             all = 0;
@@ -1152,17 +1155,14 @@ public final class HallSheets {
         }
 
         int worth() {
-            return worthOf(watchedShares);
+            return watchedShares * (all - watched) - (allShares - watchedShares) * watched;
         }
 
-        private int worthOf(int sharesWatched) {
-            return sharesWatched * (all - watched) - (allShares - sharesWatched) * watched;
-        }
-
+        /** With as many WATCHED, COST is as much or less just where the sum of their SHARES is. */
         int choices(boolean any) {
             int choices = 0;
             for (int bits = 0; areFew() && bits < 1 << all; bits++) {
-                if (Integer.bitCount(bits) == watched && (any || worthOf(sharesIn(bits)) <= worth())) {
+                if (Integer.bitCount(bits) == watched && (any || sharesIn(bits) <= watchedShares)) {
                     choices++;
                 }
             }
@@ -1229,16 +1229,15 @@ public final class HallSheets {
         private static final int BEHIND_FIELD = 5;
         private static final int BEHIND_GROUP = 6;
 
-        private int state = AT_NAME;
-        private int depth = 0;
-        private boolean compared = false;
-        private int digits = 0;
-        private boolean zeroAhead = false;
+        private int state;
+        private int depth;
+        private boolean compared;
+        private int digits;
+        private boolean zeroAhead;
 
         int faultOf(int[] text, int size) {
             state = AT_NAME;
             depth = 0;
-            compared = false;
             for (int at = 0; at < size && at < text.length; at++) {
                 if (!goesOn(text[at])) {
                     return at;
@@ -1347,15 +1346,15 @@ public final class HallSheets {
         private final boolean[] any = new boolean[MarkGrammar.MOST_DEEP + 1];
         private final boolean[] all = new boolean[MarkGrammar.MOST_DEEP + 1];
         private final boolean[] turned = new boolean[MarkGrammar.MOST_DEEP + 1];
-        private int depth = 0;
+        private int depth;
 
-        private int left = 0;
-        private int comparison = NOT_COMPARED;
-        private int sum = 0;
-        private int adding = '+';
-        private int product = 1;
-        private int scaling = '*';
-        private int number = 0;
+        private int left;
+        private int comparison;
+        private int sum;
+        private int adding;
+        private int product;
+        private int scaling;
+        private int number;
 
         boolean holds(int[] text, int size, Hall hall, int itsNumber) {
             depth = 0;
@@ -1509,10 +1508,10 @@ public final class HallSheets {
 
         int held = NOTHING;
         final Sheet sheet = new Sheet();
-        private int hall = 0;
-        private int trueCame = 0;
-        int sort = BYTES;
-        int size = 0;
+        private int hall;
+        private int trueCame;
+        int sort;
+        int size;
         final int[] elements = new int[MOST_ELEMENTS];
 
         void holdSheet(int number, Hall its) {

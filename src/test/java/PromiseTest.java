@@ -192,6 +192,9 @@ public final class PromiseTest {
         due("liked 0", x.of(0, 4), 140);
         due("set(0, 5)", x.set(0, 5), 0);
         due("liked 5", x.of(0, 4), 145);
+        x.sheet(0, 3, 99);
+        due("liked 5 makes it just came", x.of(0, 4), 145);
+        x.sheet(0, 3, 100);
         due("set(0, 6)", x.set(0, 6), 5);
         due("liked 6 would be above came", x.of(0, 4), 145);
         x.sheet(0, 3, 99);
@@ -204,6 +207,8 @@ public final class PromiseTest {
         due("139 copied", x.of(0, 4), 193);
         x.truly(0, 192, 139);
         due("139 copied is just above", x.of(0, 4), 139);
+        x.truly(0, 999, 198);
+        due("198 copied", x.of(0, 4), 189);
         x.truly(0, 999, 503);
         due("503 copied", x.of(0, 4), 530);
         x.truly(0, 999, 530);
@@ -350,6 +355,9 @@ public final class PromiseTest {
         CHECKS.part("promise 27");
         due("measure(0)", x.measure(0), 2 * 16 * 16 + 8 * 16);
         due("measure(1)", x.measure(1), 12 * 12 + 4 * 3 * 3 + 4 * 36);
+        HallSheets y = new HallSheets();
+        sentHall(y, 9, 0, 0, 9, 1);
+        due("first of ours 1", y.figures(1, 1), 1);
         oddLast();
         roundShares();
     }
@@ -446,6 +454,9 @@ public final class PromiseTest {
         HallSheets y = new HallSheets();
         sentHall(y, 10, 0, 0, 10, 10);
         due("a share of 100", y.middle(0), 100);
+        HallSheets z = new HallSheets();
+        sentHall(z, 10, 0, 0, 10, 0);
+        due("a share of 0", z.middle(0), 0);
         trulyAll();
     }
 
@@ -481,11 +492,21 @@ public final class PromiseTest {
         x.sheet(4, 6, 0);
         x.send(4);
         due("written, not true", x.trulyAll(4), 1);
+        x.sheet(4, 4, 10);
+        x.truly(4, 50, 40);
+        x.send(4);
+        due("ours as its list, came above", x.trulyAll(4), -4);
+        x.sheet(4, 6, 0);
+        x.send(4);
         due("measure(3)", x.measure(3), 8);
         HallSheets y = new HallSheets();
         sentHall(y, 20, 0, 0, 20, 20);
         sentHall(y, 20, 0, 0, 20, 19);
         due("kin at 95", y.trulyAll(0), 1);
+        HallSheets z = new HallSheets();
+        sentHall(z, 20, 0, 0, 1, 1);
+        sentHall(z, 20, 0, 95, 20, 20);
+        due("hall 0 is its kin", z.trulyAll(1), 2);
     }
 
     private static void watching() {
@@ -587,6 +608,12 @@ public final class PromiseTest {
         due("it wasn't", x.down(3), 0);
         due("written again", x.sum(3, 2), 100);
         due("by district 1 alone", x.helped(), 199998);
+        HallSheets y = new HallSheets();
+        sentHall(y, 100, 0, 0, 1, 1);
+        due("by 1", y.won(), 1);
+        due("nothing helped", y.helped(), 0);
+        due("sent up", y.up(0, 1, 0), 1);
+        due("helped against", y.helped(), -2);
         sumRefusals(x);
     }
 
@@ -672,6 +699,9 @@ public final class PromiseTest {
         due("missing ones can't turn", x.turn(), -4);
         x.truly(2, 100, 49);
         due("just enough", x.turn(), 1);
+        HallSheets y = new HallSheets();
+        sentHall(y, 9, 0, 0, 1, 1);
+        due("above by 1", y.turn(), -4);
     }
 
     private static void recounts() {
@@ -706,6 +736,13 @@ public final class PromiseTest {
         x.sheet(5, 6, 0);
         x.send(5);
         due("just its list", x.again(9, 0), 150);
+        due("which, for nothing", x.again(0, 1), 0);
+        x.sheet(5, 4, 1);
+        x.truly(5, 10, 10);
+        x.send(5);
+        due("above its list by 1", x.again(2, 0), 100);
+        due("it costs 2", x.again(2, 1), 3);
+        due("all of worth", x.again(6, 0), 200);
     }
 
     private static void lands() {
@@ -745,6 +782,10 @@ public final class PromiseTest {
         x.set(2, 95);
         x.set(1, 3);
         x.set(3, 30);
+        int[] choice = {97, 2, 50, 100, 0, 60};
+        for (int kin = 0; kin < 6; kin++) {
+            x.set(4 + kin, choice[kin]);
+        }
         for (int seed : new int[] {0, 1, -1, 12345, LEAST, MOST}) {
             int z = seed;
             int all = 0;
@@ -753,7 +794,7 @@ public final class PromiseTest {
                 z = z * 1103515245 + 12345;
                 int came = (500 + h) * inHundred((h % 2 == 1 ? 95 : 3) + draw(z, 30)) / 100;
                 z = z * 1103515245 + 12345;
-                int ours = came * inHundred(50 + draw(z, 30)) / 100;
+                int ours = came * inHundred(choice[h] + draw(z, 30)) / 100;
                 due("came in land " + seed, x.of(h, 1), came);
                 due("ours in land " + seed, x.of(h, 2), ours);
                 all += came;
@@ -774,32 +815,51 @@ public final class PromiseTest {
 
     /** ODD counts the LANDS that, taken and sent one by one, measure as much. */
     private static void oddCounts() {
+        for (int missing = 0; missing < 4; missing++) {
+            for (int what = 0; what <= 4; what++) {
+                oddCount(missing, what);
+            }
+        }
+    }
+
+    private static void oddCount(int missing, int what) {
         HallSheets x = new HallSheets();
         x.hall(999, 0, 0);
-        x.hall(700, 0, 0);
+        x.hall(700, 300, 0);
         x.hall(20, 1100, 0);
-        x.hall(800, 1100, 0);
-        x.truly(1, 600, 300);
-        x.truly(2, 20, 5);
-        x.truly(3, 777, 333);
-        x.send(1);
-        x.send(2);
-        x.send(3);
-        x.image();
-        for (int what = 0; what <= 4; what++) {
-            int now = x.measure(what);
-            int asOdd = 0;
-            int got = x.odd(what, 9, -4);
-            for (int z = -4; z <= 4; z++) {
-                x.land(z);
-                x.send(1);
-                x.send(2);
-                x.send(3);
-                asOdd += x.measure(what) >= now ? 1 : 0;
-                x.restore();
+        x.hall(800, 1200, 0);
+        int[][] truly = {{900, 420}, {600, 300}, {20, 5}, {777, 333}};
+        for (int h = 0; h < 4; h++) {
+            x.truly(h, truly[h][0], truly[h][1]);
+        }
+        x.set(1, 90);
+        x.set(2, 20);
+        x.set(5, 90);
+        x.set(6, 5);
+        x.set(7, 100);
+        sendOthers(x, missing);
+        int now = x.measure(what);
+        int got = x.odd(what, 9, -4);
+        int first = x.odd(what, 1, -4);
+        due("in mind only", x.of(1 - missing % 2, 5) + x.of(3, 1), (missing % 2 == 1 ? 900 : 600) + 777);
+        int asOdd = 0;
+        for (int z = -4; z <= 4; z++) {
+            x.land(z);
+            sendOthers(x, missing);
+            boolean is = x.measure(what) >= now;
+            asOdd += is ? 1 : 0;
+            if (z == -4) {
+                due("odd(" + what + ", 1, -4) without " + missing, first, is ? 1 : 0);
             }
-            due("odd(" + what + ", 9, -4)", got, asOdd);
-            due("in mind only", x.of(1, 5) + x.of(3, 1), 600 + 777);
+        }
+        due("odd(" + what + ", 9, -4) without " + missing, got, asOdd);
+    }
+
+    private static void sendOthers(HallSheets x, int missing) {
+        for (int h = 0; h < 4; h++) {
+            if (h != missing) {
+                x.send(h);
+            }
         }
     }
 
@@ -834,6 +894,10 @@ public final class PromiseTest {
         due("a byte below 0", x.fault(0), 4);
         x.put(0, 4, 0);
         due("a byte of 0", x.fault(0), 4);
+        due("a ( left open", Checks.text(x, 0, "A:((c=0").fault(0), 7);
+        due("and a good text behind it", Checks.text(x, 0, "A:c=0").fault(0), -4);
+        due("and one with a ) too many", Checks.text(x, 0, "A:c=0)").fault(0), 5);
+        due("and one too short", Checks.text(x, 0, "A:c").fault(0), 3);
         longTexts();
     }
 
@@ -863,7 +927,8 @@ public final class PromiseTest {
             "!c=o", "!!c=c", "c-o-l<0", "10-3-2=5", "100%30*2=20", "100*30%7=4", "2+3*4=14", "7%0=0", "0-7%0=0",
             "c*c*c*c<0", "c*c*c*c%1000=0-440", "9999*9999*9999<0", "9999*9999*9999*9999>0", "1=0|2=2&3=3", "1=1|2=3&3=4",
             "!1=2&1=1", "!(1=2&1=1)", "!(1=1)|1=1", "(1=1|1=1)&(1=2|!1=2)", "((1=2|1=1))", "0-5<0", "0-7+7=0",
-            "9999*9999*9999%10<0", "1=1&!(2=2&!(3=3&!(4=5)))|0=1", "!(1=1&1=2)&1=1", "c-c*2=0-c", "8%5=3", "o%10=3"};
+            "9999*9999*9999%10<0", "1=1&!(2=2&!(3=3&!(4=5)))|0=1", "!(1=1&1=2)&1=1", "c-c*2=0-c", "8%5=3", "o%10=3",
+            "!(!(!(!(!(!(!(!(1=1&c>o))))))))", "((((((((1=2))))))))|1=1", "4096*4096*128-1>0", "4096*4096*128<0"};
         String[] fail = {"c=499", "c>500", "c<500", "t=0", "w=0", "h=0", "1=2&1=1|1=2", "!(1=1|1=2)", "1=1&1=2",
             "10-3-2=9", "100%30*2=40", "7%0=7", "!c=c", "!!c=o", "(1=1)&1=2", "!(1=1)", "2+3*4=20", "1=1&1=2|0=1"};
         for (String text : hold) {
@@ -875,6 +940,19 @@ public final class PromiseTest {
         HallSheets x = Checks.text(twoHalls(), 3, "Q:0=0");
         x.mark(3);
         due("a missing hall", x.marked(0), -4);
+        x = Checks.text(twoHalls(), 3, "Q:w=0");
+        x.mark(3);
+        x.watch(1, false);
+        due("not watched", x.marked(1), 'Q');
+        StringBuilder full = new StringBuilder("Q:");
+        while (full.length() < 76) {
+            full.append('!');
+        }
+        x = Checks.text(twoHalls(), 3, full + "t=10");
+        due("80 bytes, a number last", x.mark(3), 0);
+        due("t is 1, not 10", x.marked(1), -4);
+        Checks.text(x, 3, full.append("11=1").substring(0, 80)).mark(3);
+        due("11 is not 1", x.marked(1), -4);
         due("no hall", x.marked(2), -1);
         due("no hall", x.marked(-1), -1);
     }
@@ -992,10 +1070,20 @@ public final class PromiseTest {
         due("restore()", x.restore(), 2);
         restored(x);
         due("once more", x.restore(), 2);
+        due("sent up once more", x.sum(1, 2), 5);
+        x.hall(40, 0, 0);
+        x.truly(2, 30, 20);
+        x.sheet(2, 4, 8);
+        x.watch(2, true);
+        x.send(2);
+        due("and again", x.restore(), 2);
         due("a hall behind it is new", x.hall(70, 0, 0), 2);
         due("without a sheet's kind", x.of(2, 8), 0);
         due("without truth", x.of(2, 1), 0);
+        due("without truth", x.of(2, 2), 0);
+        due("without a number", x.sheet(2, 4, 0) + x.of(2, 3), 0);
         due("missing", x.of(2, 5), -4);
+        due("missing", x.count(1), 2);
         due("not watched", x.watch(2, false), 0);
         due("restored again", x.restore(), 2);
         x.send(-1);
@@ -1013,10 +1101,12 @@ public final class PromiseTest {
         due("written", x.of(0, 5), 90);
         due("written", x.of(0, 6), 30);
         due("missing", x.of(1, 5), -4);
-        due("watched", x.count(4), 1);
+        due("watched", x.watch(0, true), 0);
+        due("watched", x.watch(1, false), 0);
         due("sent up", x.sum(1, 2), 5);
         due("sent up", x.sum(1, 3), 4);
-        due("not sent up", x.sum(0, 2), 0);
+        due("not sent up", x.down(0), 0);
+        due("sent up", x.down(1), 1);
         due("marks", x.count(2), 1);
         due("mark", x.marked(0), 'A');
         due("liked", x.set(0, 3), 3);
@@ -1130,6 +1220,7 @@ public final class PromiseTest {
         row(x, 0, 1, 1, 2, 3, 4);
         due("onto itself, downwards", x.copy(0, 1, 0, 0, 4), 4);
         row(x, 0, 1, 2, 3, 4, 4);
+        due("all of a row", x.copy(1, 0, 1, 0, 3), 3);
         due("none", x.copy(0, 5, 1, 3, 0), 0);
         due("none, behind the end", x.copy(0, 6, 1, 0, 0), -13);
         due("none, behind the end", x.copy(0, 0, 1, 4, 0), -13);
