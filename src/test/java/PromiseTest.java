@@ -1009,6 +1009,10 @@ public final class PromiseTest {
         due("-2 ahead of a fault", Checks.text(x, 3, "A").mark(3), -2);
         due("a fault can be asked still", x.fault(3), 1);
         due("count(2)", x.count(2), 10);
+        due("an image with all its marks", x.image(), 1);
+        due("lands with all its marks", x.odd(0, 2, 0), 2);
+        due("restored with all its marks", x.restore(), 1);
+        due("count(2)", x.count(2), 10);
     }
 
     private static void saying() {
