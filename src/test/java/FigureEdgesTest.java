@@ -25,6 +25,7 @@ public final class FigureEdgesTest {
         truly();
         trulyByEarlier();
         trulyByKin();
+        onceWritten();
         watched();
         costs();
         ways();
@@ -345,6 +346,51 @@ public final class FigureEdgesTest {
         first.hall(10, 300, 95);
         Edges.write(first, new int[] {20, 10}, new int[] {19, 10});
         due("a HALL ahead of it", first.trulyAll(1), 2);
+    }
+
+    /** HALLS with CAME and OURS as their LISTS, WRITTEN once; then HALLS 1 and 2 are MISSING. */
+    private static void onceWritten() {
+        HallSheets x = new HallSheets();
+        x.hall(200, 1000, 94);
+        x.hall(150, 0, 95);
+        x.hall(100, 1000, 95);
+        x.watch(1, true);
+        Edges.write(x, new int[] {200, 150, 100}, new int[] {200, 150, 100});
+        long[] due = {3, 2, 1, 1000, 3, 3, 100, 100, 0, 1, 2, 0, 3, 3};
+        onceWritten("WRITTEN", x, due);
+        Edges.write(x, new int[] {200, -1, -1}, new int[] {100, 150, 100});
+        due = new long[] {1, 1, 1, 10, 1, 0, -4, 50, FAR - 4, -4, -4, FAR - 4, -4, -4};
+        onceWritten("MISSING now", x, due);
+        Edges.write(x, new int[] {200}, new int[] {200});
+        EDGES.sentence(15, "another HALL of its KIN (not MISSING): once WRITTEN, MISSING now");
+        due("only EARLIER could tell, and is 94", x.trulyAll(0), 0);
+        Edges.write(x, new int[] {200, 150}, new int[] {200, 150});
+        due("WRITTEN again", x.trulyAll(0), 1);
+    }
+
+    private static void onceWritten(String what, HallSheets x, long[] due) {
+        EDGES.sentence(9, "of what is WRITTEN in HALLS that aren't MISSING");
+        due(what + ": LAST 0", x.figures(0, 0), due[0]);
+        due(what + ": FIRST 1", x.figures(1, 1), due[1]);
+        EDGES.sentence(10, "of what is WRITTEN in HALLS that aren't MISSING");
+        due(what + ": odds(0)", x.odds(0), due[2]);
+        due(what + ": odds(5)", x.odds(5), due[3]);
+        EDGES.sentence(11, "of what is WRITTEN in HALLS that aren't MISSING");
+        due(what + ": any ROUND", x.round(-1), due[4]);
+        due(what + ": ROUND with 100", x.round(100), due[5]);
+        EDGES.sentence(13, "of what is WRITTEN in HALLS that aren't MISSING");
+        due(what + ": of the HILLS", x.middle(0), due[6]);
+        due(what + ": of the TOWN", x.middle(1), due[7]);
+        EDGES.sentence(14, "of what is WRITTEN in HALLS that aren't MISSING");
+        due(what + ": left(2)", x.left(2), due[8]);
+        EDGES.sentence(15, "of what is WRITTEN in HALLS that aren't MISSING");
+        due(what + ": trulyAll(0)", x.trulyAll(0), due[9]);
+        due(what + ": trulyAll(1)", x.trulyAll(1), due[10]);
+        EDGES.sentence(17, "of what is WRITTEN in HALLS that aren't MISSING");
+        due(what + ": cost()", x.cost(), due[11]);
+        EDGES.sentence(18, "of what is WRITTEN in HALLS that aren't MISSING");
+        due(what + ": ways(0)", x.ways(0), due[12]);
+        due(what + ": ways(1)", x.ways(1), due[13]);
     }
 
     private static int byKin(int told, int came, int ours) {

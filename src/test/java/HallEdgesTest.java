@@ -378,6 +378,7 @@ public final class HallEdgesTest {
         due("of(1, 5)", x.of(1, 5), -4);
         due("of(29, 5)", x.of(29, 5), 0);
         due("all", x.send(-1), 30);
+        likedWhenSent();
         EDGES.sentence(7, "as its SHEET TELLS when they are sent");
         HallSheets y = Edges.hall(200, 140, 90);
         y.sheet(0, 3, 50);
@@ -389,6 +390,30 @@ public final class HallEdgesTest {
         due("OURS as they were told then", y.of(0, 6), 70);
         due("sent again", y.send(0), 1);
         due("CAME", y.of(0, 5), 200);
+    }
+
+    private static void likedWhenSent() {
+        EDGES.sentence(7, "the LIKED one (0 .. 9, told for all): as it is when they are sent");
+        HallSheets x = Edges.halls(3);
+        for (int h = 0; h < 3; h++) {
+            x.truly(h, 100 + h, 5);
+            x.sheet(h, 3, 50);
+        }
+        x.set(0, 3);
+        x.send(0);
+        x.set(0, 7);
+        x.send(1);
+        x.set(0, 0);
+        long[] written = {53, 57, -4};
+        for (int h = 0; h < 3; h++) {
+            due("OURS that are WRITTEN of " + h, x.of(h, 6), written[h]);
+            due("OURS that its SHEET TELLS now, of " + h, x.of(h, 4), 50);
+        }
+        x.set(0, 9);
+        x.send(-1);
+        for (int h = 0; h < 3; h++) {
+            due("all are sent, OURS of " + h, x.of(h, 6), 59);
+        }
     }
 
     private static void heldNumbers() {

@@ -13,6 +13,7 @@ public final class ImageEdgesTest {
         emptyImage();
         fullImage();
         restored();
+        whatHallsAre();
         lawsRestored();
         shelvesStay();
         newBehindImage();
@@ -144,6 +145,33 @@ public final class ImageEdgesTest {
         due("told again", x.down(0), 1);
     }
 
+    private static void whatHallsAre() {
+        EDGES.sentence(35, "all that there is: LIST, TOWN, KIN, DISTRICT, EARLIER of HALLS, the texts of MARKS");
+        HallSheets x = new HallSheets();
+        String[] texts = {"A:h<1", "B:l=70&t=1&k=5&d=3&e>99", "C:l=999&t=0&k=1&d=2&e=7"};
+        x.hall(80, 0, 0);
+        x.hall(70, 1530, 100);
+        x.hall(999, 120, 7);
+        for (String text : texts) {
+            Checks.text(x, 0, text).mark(0);
+        }
+        x.image();
+        x.hall(1, 0, 1);
+        Checks.text(x, 0, "D:h=3").mark(0);
+        for (int times = 0; times < 2; times++) {
+            x.restore();
+            x.send(-1);
+            for (int h = 0; h < 3; h++) {
+                due("marked(" + h + "), restored", x.marked(h), 'A' + h);
+                due("of(" + h + ", 0), restored", x.of(h, 0), h == 0 ? 80 : h == 1 ? 70 : 999);
+            }
+            x.up(3, 5, 0);
+            due("sum(2, 4), WRITTEN of DISTRICT 2 only", x.sum(2, 4), 0);
+            x.restore();
+            Checks.text(x, 0, "E:!(l=1)").mark(0);
+        }
+    }
+
     private static void lawsRestored() {
         EDGES.sentence(35, "all that there is: LAWS, LIKED");
         HallSheets x = new HallSheets();
@@ -260,6 +288,16 @@ public final class ImageEdgesTest {
     }
 
     private static void counts() {
+        EDGES.sentence(36, "5 all CAME, 6 all OURS that are WRITTEN: not as SENT UP, not of MISSING HALLS");
+        HallSheets sent = Edges.written(new int[] {10, 20, 30}, new int[] {4, 5, 6});
+        sent.up(0, 99999, 99998);
+        sent.up(1, 7, 7);
+        due("count(5)", sent.count(5), 60);
+        due("count(6)", sent.count(6), 15);
+        Edges.write(sent, new int[] {-1, 20, -1}, new int[] {4, 5, 6});
+        due("count(5), two MISSING", sent.count(5), 20);
+        due("count(6), two MISSING", sent.count(6), 5);
+        due("count(3), two MISSING", sent.count(3), 3 * 999);
         EDGES.sentence(36, "0 HALLS, 1 those MISSING, 2 MARKS, 3 all LISTS, 4 those WATCHED, 5 all CAME, 6 all OURS");
         HallSheets x = Edges.halls(30);
         x.truly(29, 99, 9);

@@ -30,6 +30,8 @@ public final class MarkEdgesTest {
         comparisons();
         machineNumbers();
         joints();
+        deepJoints();
+        eightyBytes();
         fields();
         whichSaid();
         said();
@@ -380,6 +382,67 @@ public final class MarkEdgesTest {
             due(bits + " !!a", holds("!!" + a), p ? 1 : 0);
             due(bits + " !!!a", holds("!!!" + a), p ? 0 : 1);
             due(bits + " 8 deep", holds("((((((!((" + a + "|" + b + "))&" + c + "))))))"), !(p || q) && r ? 1 : 0);
+        }
+    }
+
+    /** At each depth an AND or an OR, ahead of what stands deeper or behind it. */
+    private static void deepJoints() {
+        EDGES.sentence(32, "( at most 8 deep, an AND or an OR in each");
+        for (int bits = 0; bits < 1 << 8; bits++) {
+            for (int ors : new int[] {0x55, 0xaa, 0x33, 0xcc, 0x0f, 0xd6, 0x69}) {
+                deep(bits, ors, false, true);
+                deep(bits, ors, true, (bits & 1) == 0);
+            }
+        }
+        EDGES.sentence(32, "OR: AND, or AND | OR: three in ( )");
+        for (int bits = 0; bits < 8; bits++) {
+            String a = (bits & 1) != 0 ? "1=1" : "1=2";
+            String b = (bits & 2) != 0 ? "1<2" : "2<1";
+            String c = (bits & 4) != 0 ? "2>1" : "1>2";
+            due("(" + a + "|" + b + "|" + c + ")", holds("(" + a + "|" + b + "|" + c + ")"), bits != 0 ? 1 : 0);
+            due("!(" + a + "&" + b + "&" + c + ")", holds("!(" + a + "&" + b + "&" + c + ")"), bits != 7 ? 1 : 0);
+            due("1=2|(" + a + "|(" + b + "|" + c + "|1=2))&1=1",
+                holds("1=2|(" + a + "|(" + b + "|" + c + "|1=2))&1=1"), bits != 0 ? 1 : 0);
+        }
+    }
+
+    /** Eight ( , of which each bit tells a TEST beside the next one, and whether an OR joins them. */
+    private static void deep(int bits, int ors, boolean ahead, boolean innermost) {
+        boolean holds = innermost;
+        String text = holds ? "1=1" : "1=2";
+        for (int depth = 0; depth < 8; depth++) {
+            boolean is = (bits >> depth & 1) != 0;
+            boolean or = (ors >> depth & 1) != 0;
+            String other = is ? "1<2" : "1>2";
+            String joint = or ? "|" : "&";
+            text = "(" + (ahead ? other + joint + text : text + joint + other) + ")";
+            holds = or ? holds || is : holds && is;
+        }
+        due(text, holds(text), holds ? 1 : 0);
+    }
+
+    private static void eightyBytes() {
+        EDGES.sentence(32, "a NUMBER of 1 to 4 digits: the last of 80 bytes");
+        String[] ends = {"c<12", "c>8888", "12>c", "5=c"};
+        boolean[][] due = {{true, false}, {false, true}, {true, false}, {false, true}};
+        for (int i = 0; i < ends.length; i++) {
+            String end = ends[i];
+            StringBuilder text = new StringBuilder("A:");
+            while (text.length() + end.length() < 80) {
+                text.append('!');
+            }
+            HallSheets x = Edges.written(new int[] {5, 9999}, new int[] {0, 0});
+            due(end, Checks.text(x, 0, text.append(end).toString()).mark(0), 0);
+            due(text + " of CAME 5", x.marked(0), due[i][0] ? 'A' : -4);
+            due(text + " of CAME 9999", x.marked(1), due[i][1] ? 'A' : -4);
+        }
+        EDGES.sentence(32, "MARKS of other sizes than those ahead of them");
+        HallSheets y = Edges.written(new int[] {5, 50, 500, 51}, new int[] {1, 1, 1, 1});
+        for (String text : new String[] {"A:c=5", "B:c=50&o=1&l=999", "C:c=500", "D:c=5|c=51"}) {
+            Checks.text(y, 0, text).mark(0);
+        }
+        for (int h = 0; h < 4; h++) {
+            due("marked(" + h + ")", y.marked(h), 'A' + h);
         }
     }
 

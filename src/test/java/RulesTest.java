@@ -28,6 +28,7 @@ import com.sun.source.util.Trees;
 import java.io.File;
 import java.lang.reflect.Constructor;
 import java.lang.reflect.Method;
+import java.util.ArrayList;
 import java.util.Arrays;
 import java.util.HashMap;
 import java.util.HashSet;
@@ -35,6 +36,7 @@ import java.util.List;
 import java.util.Map;
 import java.util.Set;
 import java.util.TreeSet;
+import java.util.regex.Pattern;
 import javax.lang.model.element.Element;
 import javax.lang.model.element.ElementKind;
 import javax.lang.model.element.ExecutableElement;
@@ -56,15 +58,22 @@ public final class RulesTest extends TreePathScanner<Void, Void> {
         "UnsupportedOperationException", "NoSuchElementException");
     private static final Set<String> TYPES = Set.of("int", "long", "boolean", "String", "int[]", "int[][]", "boolean[]", "void");
     private static final String[] FACE = {
-        "int hall(int, int, int)", "int truly(int, int, int)", "int sheet(int, int, int)", "int set(int, int)",
-        "int of(int, int)", "int send(int)", "int hear(int, int)", "int figures(int, int)", "long odds(int)",
-        "int round(int)", "int may(int, int)", "int middle(int)", "int left(int)", "int trulyAll(int)",
-        "int watch(int, boolean)", "int cost()", "int ways(int)", "int up(int, int, int)", "int down(int)",
-        "int sum(int, int)", "int won()", "int helped()", "int untrue(int, int)", "int turn()", "int again(int, int)",
-        "int measure(int)", "int odd(int, int, int)", "int land(int)", "int fault(int)", "int mark(int)", "int marked(int)",
-        "int said(int, int)", "int image()", "int restore()", "int count(int)", "int keep(int, int, int)",
-        "int row(int, int, int)", "int put(int, int, int)", "long element(int, int)", "int copy(int, int, int, int, int)",
-        "int weight(int)", "int toss(int)"};
+        "int hall(int list, int told, int earlier)", "int truly(int hall, int came, int ours)",
+        "int sheet(int hall, int kind, int number)", "int set(int what, int n)", "int of(int hall, int what)",
+        "int send(int hall)", "int hear(int c, int o)", "int figures(int figure, int what)", "long odds(int figure)",
+        "int round(int p)", "int may(int n, int what)", "int middle(int town)", "int left(int hall)", "int trulyAll(int hall)",
+        "int watch(int hall, boolean is)", "int cost()", "int ways(int what)", "int up(int district, int came, int ours)",
+        "int down(int district)", "int sum(int district, int what)", "int won()", "int helped()",
+        "int untrue(int hall, int what)", "int turn()", "int again(int budget, int what)", "int measure(int what)",
+        "int odd(int what, int n, int z)", "int land(int z)", "int fault(int d)", "int mark(int d)", "int marked(int hall)",
+        "int said(int name, int what)", "int image()", "int restore()", "int count(int what)",
+        "int keep(int d, int what, int k)", "int row(int d, int sort, int n)", "int put(int d, int i, int v)",
+        "long element(int d, int i) throws IllegalArgumentException, IllegalStateException",
+        "int copy(int d, int i, int e, int j, int n)", "int weight(int d)", "int toss(int d)"};
+    /** What the interface says ahead of a call. */
+    private static final String[][] SAYS = {{"halls, sheets.", "hall"}, {"figures.", "figures"},
+        {"clouds, halls that truly all.", "middle"}, {"sums, what is untrue.", "up"}, {"measures, lands.", "measure"},
+        {"marks.", "fault"}, {"the image, what is told.", "image"}, {"shelves.", "keep"}};
 
     private final CompilationUnitTree unit;
     private final Trees trees;
@@ -91,13 +100,17 @@ public final class RulesTest extends TreePathScanner<Void, Void> {
             RulesTest rules = new RulesTest(unit, Trees.instance(task));
             rules.scan(unit, null);
             rules.whole();
+            rules.faceInOrder();
         }
         CHECKS.end();
     }
 
     private static void face() throws Exception {
         CHECKS.part("rule 1");
-        Set<String> due = new TreeSet<>(Arrays.asList(FACE));
+        Set<String> due = new TreeSet<>();
+        for (String method : FACE) {
+            due.add(method.replaceAll(" throws .*", "").replaceAll("(int|boolean) \\w+([,)])", "$1$2"));
+        }
         Set<String> is = new TreeSet<>();
         for (Method method : HallSheets.class.getDeclaredMethods()) {
             if (java.lang.reflect.Modifier.isPrivate(method.getModifiers()) || method.isSynthetic()) {
@@ -118,6 +131,45 @@ public final class RulesTest extends TreePathScanner<Void, Void> {
         Class<?>[] thrown = HallSheets.class.getMethod("element", int.class, int.class).getExceptionTypes();
         CHECKS.holds("what element throws", Arrays.equals(thrown,
             new Class<?>[] {IllegalArgumentException.class, IllegalStateException.class}));
+    }
+
+    /** The calls as the document has them, by name and in its order, and what the interface says ahead of them. */
+    private void faceInOrder() throws Exception {
+        CHECKS.part("the public face");
+        List<String> is = new ArrayList<>();
+        for (Tree member : ((ClassTree) unit.getTypeDecls().get(0)).getMembers()) {
+            if (member instanceof MethodTree && ((MethodTree) member).getModifiers().getFlags().contains(Modifier.PUBLIC)) {
+                is.add(told((MethodTree) member));
+            }
+        }
+        CHECKS.due("classes of the file", unit.getTypeDecls().size(), 1);
+        CHECKS.holds("no package line", unit.getPackage() == null);
+        CHECKS.due("calls", is.size(), FACE.length + 1);
+        CHECKS.holds(is.get(0) + " comes first", is.get(0).equals("<init>()"));
+        for (int i = 0; i < FACE.length && i + 1 < is.size(); i++) {
+            CHECKS.holds(is.get(i + 1) + " is " + FACE[i], is.get(i + 1).equals(FACE[i]));
+        }
+        String source = unit.getSourceFile().getCharContent(true).toString();
+        for (String[] says : SAYS) {
+            String ahead = "\\R\\R    // ---- " + Pattern.quote(says[0]) + "\\R\\R    public int " + says[1] + "\\(";
+            CHECKS.holds("---- " + says[0] + " is said ahead of " + says[1], Pattern.compile(ahead).matcher(source).find());
+        }
+    }
+
+    private static String told(MethodTree method) {
+        StringBuilder its = new StringBuilder();
+        if (method.getReturnType() != null) {
+            its.append(method.getReturnType()).append(' ');
+        }
+        its.append(method.getName()).append('(');
+        for (VariableTree parameter : method.getParameters()) {
+            its.append(its.charAt(its.length() - 1) == '(' ? "" : ", ").append(parameter);
+        }
+        its.append(')');
+        for (int i = 0; i < method.getThrows().size(); i++) {
+            its.append(i == 0 ? " throws " : ", ").append(method.getThrows().get(i));
+        }
+        return its.toString();
     }
 
     private void rule(int number, Tree at, String what, boolean is) {

@@ -27,10 +27,14 @@ public final class SumEdgesTest {
         measures();
         whichOdds();
         odd();
+        oddOfSheets();
         oddOfMissing();
         seeds();
         lands();
         heldLands();
+        landsLeave();
+        draws();
+        onceWritten();
         EDGES.end(19, 29);
     }
 
@@ -378,6 +382,48 @@ public final class SumEdgesTest {
         due("nothing is worth it now", x.again(300, 1), 0);
     }
 
+    /** HALLS 1 and 2 were WRITTEN, too, and are MISSING now. */
+    private static void onceWritten() {
+        HallSheets x = new HallSheets();
+        x.hall(100, 0, 0);
+        x.hall(200, 0, 0);
+        x.hall(300, 10, 0);
+        Edges.write(x, new int[] {110, 260, 310}, new int[] {100, 250, 290});
+        due("WRITTEN: sum(0, 0)", x.sum(0, 0), 370);
+        Edges.write(x, new int[] {110, -1, -1}, new int[] {100, 250, 290});
+        EDGES.sentence(21, "of what is WRITTEN in HALLS that aren't MISSING");
+        long[] sums = {110, 100, 110, 100, 0, 0, 0, 0, 0, 0, 0, 0};
+        for (int i = 0; i < sums.length; i++) {
+            due("sum(" + i / 6 + ", " + i % 6 + ")", x.sum(i / 6, i % 6), sums[i]);
+        }
+        EDGES.sentence(24, "of what is WRITTEN in HALLS that aren't MISSING");
+        due("untrue(-1, 0)", x.untrue(-1, 0), 110);
+        due("untrue(-1, 1)", x.untrue(-1, 1), 10);
+        due("untrue(1, 1)", x.untrue(1, 1), -4);
+        HallSheets other = new HallSheets();
+        other.hall(100, 0, 0);
+        other.hall(200, 0, 0);
+        Edges.write(other, new int[] {-1, 230}, new int[] {0, 7});
+        due("untrue(-1, 0), HALL 0 MISSING", other.untrue(-1, 0), 230);
+        due("untrue(-1, 1), HALL 0 MISSING", other.untrue(-1, 1), 30);
+        EDGES.sentence(25, "of what is WRITTEN in HALLS that aren't MISSING");
+        due("turn()", x.turn(), 1);
+        EDGES.sentence(26, "of what is WRITTEN in HALLS that aren't MISSING");
+        due("again(300, 0)", x.again(300, 0), 50);
+        due("again(300, 1)", x.again(300, 1), 1);
+        EDGES.sentence(27, "of what is WRITTEN in HALLS that aren't MISSING");
+        long[] measures = {90, 72, 0, 0, 10};
+        for (int what = 0; what <= 4; what++) {
+            due("measure(" + what + ")", x.measure(what), measures[what]);
+        }
+        EDGES.sentence(22, "of what is WRITTEN in HALLS that aren't MISSING");
+        due("won()", x.won(), 1);
+        x.up(0, 500, 250);
+        due("won() as SENT UP", x.won(), 0);
+        EDGES.sentence(23, "of what is WRITTEN in HALLS that aren't MISSING");
+        due("helped()", x.helped(), -90);
+    }
+
     private static void whichMeasures() {
         EDGES.sentence(27, "A MEASURE (0 .. 4). -1.");
         HallSheets x = Edges.written(new int[] {10}, new int[] {10});
@@ -477,6 +523,27 @@ public final class SumEdgesTest {
         due("WRITTEN stays", x.of(1, 5), 23);
     }
 
+    private static void oddOfSheets() {
+        EDGES.sentence(28, "HONEST LANDS: SHEETS do not matter there");
+        for (int kind = 0; kind <= 7; kind++) {
+            HallSheets x = smallLand();
+            for (int h = 0; h < 4; h++) {
+                x.sheet(h, kind, 50 + h);
+            }
+            Edges.write(x, new int[] {100, 7, 7, 7}, new int[] {50, 3, 3, 3});
+            due("ROUND with SHEETS of KIND " + kind, x.odd(2, 50, 7), asGreat(2, 50, 7, 1, -1));
+            Edges.write(x, new int[] {21, 7, 7, 7}, new int[] {0, 3, 3, 3});
+            due("MUST BE with SHEETS of KIND " + kind, x.odd(4, 50, 7), 0);
+        }
+        EDGES.sentence(28, "HONEST LANDS: WATCHED, SENT UP and MARKS do not matter there");
+        HallSheets x = smallLand();
+        Edges.write(x, new int[] {100, 7, 7, 7}, new int[] {50, 3, 3, 3});
+        x.up(0, 5, 5);
+        x.watch(0, true);
+        Checks.text(x, 0, "A:c=0").mark(0);
+        due("ROUND", x.odd(2, 50, 7), asGreat(2, 50, 7, 1, -1));
+    }
+
     private static void oddOfMissing() {
         EDGES.sentence(28, "MISSING HALLS are MISSING there");
         for (int missing = 0; missing < 4; missing++) {
@@ -529,6 +596,59 @@ public final class SumEdgesTest {
         x.set(1, 0);
         due("nobody", x.land(MOST), 0);
         due("nobody chose", x.of(29, 2), 0);
+    }
+
+    private static void landsLeave() {
+        EDGES.sentence(29, "A LAND may be TAKEN: TRULY becomes so, nothing else");
+        HallSheets x = Edges.hall(100, 60, 20);
+        x.sheet(0, 4, 5);
+        x.watch(0, true);
+        x.send(0);
+        x.up(0, 9, 8);
+        x.set(3, 0);
+        due("land(1)", x.land(1), 50);
+        due("TRULY", x.of(0, 1) * 1000 + x.of(0, 2), 50025);
+        due("WRITTEN CAME", x.of(0, 5), 65);
+        due("WRITTEN OURS", x.of(0, 6), 25);
+        due("its SHEET TELLS", x.of(0, 3), 55);
+        due("its SHEET", x.sheet(0, 0, 0), 4);
+        due("SENT UP", x.sum(0, 3), 8);
+        due("WATCHED", x.count(4), 1);
+        due("a MISSING HALL's TRULY too", Edges.halls(3).land(1) > 0 ? 1 : 0, 1);
+    }
+
+    /** A seed of which z is as wanted so many steps on: a step is undone by the inverse of its factor. */
+    private static int seedOf(int wanted, int steps) {
+        int factor = 1103515245;
+        int inverse = factor;
+        for (int i = 0; i < 5; i++) {
+            inverse *= 2 - factor * inverse;
+        }
+        int z = wanted;
+        for (int i = 0; i < steps; i++) {
+            z = (z - 12345) * inverse;
+        }
+        return z;
+    }
+
+    private static void draws() {
+        EDGES.sentence(29, "a DRAW is (z without its sign's bit over 65536, cut) modulo (twice SPREAD and 1), less SPREAD");
+        int[][] rows = {{0, 0}, {1, 0}, {65535, 0}, {65536, 1}, {131071, 1}, {131072, 2}, {20 * 65536 - 1, 19}, {20 * 65536, 20},
+            {21 * 65536 - 1, 20}, {21 * 65536, 0}, {MOST, 32767 % 21}, {LEAST, 0}, {LEAST + 65535, 0}, {LEAST + 65536, 1},
+            {-1, 32767 % 21}, {-65536, 32767 % 21}, {-65537, 32766 % 21}};
+        for (int[] row : rows) {
+            for (int steps = 1; steps <= 4; steps++) {
+                HallSheets x = new HallSheets();
+                x.hall(100, 0, 0);
+                x.hall(100, 0, 0);
+                x.land(seedOf(row[0], steps));
+                int h = steps <= 2 ? 0 : 1;
+                int came = x.of(h, 1);
+                boolean isCame = steps % 2 == 1;
+                String draw = "z " + row[0] + " behind " + steps + " steps";
+                due(draw, isCame ? came : x.of(h, 2), isCame ? 40 + row[1] : came * (40 + row[1]) / 100);
+            }
+        }
     }
 
     private static void heldLands() {
