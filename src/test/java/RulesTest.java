@@ -10,6 +10,7 @@ import com.sun.source.tree.ForLoopTree;
 import com.sun.source.tree.IdentifierTree;
 import com.sun.source.tree.ImportTree;
 import com.sun.source.tree.LambdaExpressionTree;
+import com.sun.source.tree.LiteralTree;
 import com.sun.source.tree.MemberReferenceTree;
 import com.sun.source.tree.MethodInvocationTree;
 import com.sun.source.tree.MethodTree;
@@ -19,6 +20,7 @@ import com.sun.source.tree.SynchronizedTree;
 import com.sun.source.tree.ThrowTree;
 import com.sun.source.tree.Tree;
 import com.sun.source.tree.TryTree;
+import com.sun.source.tree.TypeCastTree;
 import com.sun.source.tree.VariableTree;
 import com.sun.source.tree.WhileLoopTree;
 import com.sun.source.util.JavacTask;
@@ -219,6 +221,9 @@ public final class RulesTest extends TreePathScanner<Void, Void> {
                 Set<Modifier> flags = ((VariableTree) member).getModifiers().getFlags();
                 fields += flags.contains(Modifier.STATIC) ? 0 : 1;
                 rule(5, member, "a static field is final", !flags.contains(Modifier.STATIC) || flags.contains(Modifier.FINAL));
+                String type = ((VariableTree) member).getType().toString();
+                rule(5, member, "a static field is a constant", !flags.contains(Modifier.STATIC)
+                    || Set.of("int", "long", "String").contains(type) && ((VariableTree) member).getInitializer() != null);
                 rule(1, member, "a field is private", !outer || flags.contains(Modifier.PRIVATE));
             }
         }
@@ -255,6 +260,8 @@ public final class RulesTest extends TreePathScanner<Void, Void> {
         boolean own = called.getEnclosingElement().toString().startsWith("HallSheets");
         rule(4, tree, "a call of " + name, own || LIBRARY.contains(name));
         rule(11, tree, name + " is called in a method", inside != null);
+        rule(12, tree, name + " is not called by a constructor", method() == null
+            || !method().getName().contentEquals("<init>"));
         if (own && inside != null) {
             calls.computeIfAbsent(name(inside), k -> new TreeSet<>()).add(name);
             boolean throwsSome = !((ExecutableElement) called).getThrownTypes().isEmpty();
@@ -292,6 +299,8 @@ public final class RulesTest extends TreePathScanner<Void, Void> {
         boolean isNew = tree.getExpression() instanceof NewClassTree;
         String thrown = isNew ? ((NewClassTree) tree.getExpression()).getIdentifier().toString() : "";
         rule(6, tree, "throws " + thrown, THROWN.contains(thrown));
+        List<? extends Tree> told = isNew ? ((NewClassTree) tree.getExpression()).getArguments() : List.of();
+        rule(6, tree, "a written text or none", told.isEmpty() || told.size() == 1 && told.get(0).getKind() == Tree.Kind.STRING_LITERAL);
         rule(6, tree, "no throw in a constructor", !method().getName().contentEquals("<init>"));
         boolean[] tries = {false};
         new TreePathScanner<Void, Void>() {
@@ -303,6 +312,20 @@ public final class RulesTest extends TreePathScanner<Void, Void> {
         }.scan(new TreePath(getCurrentPath(), method()), null);
         rule(6, tree, "no try beside a throw", !tries[0]);
         return super.visitThrow(tree, none);
+    }
+
+    @Override
+    public Void visitTypeCast(TypeCastTree tree, Void none) {
+        rule(6, tree, "a cast to " + tree.getType() + " can't fail", tree.getType().getKind() == Tree.Kind.PRIMITIVE_TYPE);
+        return super.visitTypeCast(tree, none);
+    }
+
+    @Override
+    public Void visitLiteral(LiteralTree tree, Void none) {
+        rule(3, tree, "no double, float", !(tree.getValue() instanceof Double || tree.getValue() instanceof Float));
+        boolean isText = tree.getKind() == Tree.Kind.STRING_LITERAL;
+        rule(4, tree, "signs 1 to 127", !isText || tree.getValue().toString().matches("[\\x01-\\x7f]*"));
+        return super.visitLiteral(tree, none);
     }
 
     @Override
